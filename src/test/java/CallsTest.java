@@ -146,9 +146,9 @@ public final class CallsTest {
     }
 
     private static void runs() {
-        StepCalls x = Check.of("line 11;line 22;line 33;line 44;plan 0 99 0 22 1 33 2 10 2 44 3 99 0 99 1 20;");
-        // passed over, connected, passed over, nobody, connected, hung up, hung up, nobody
-        int[] due = {2, 2, 3, 0, 2};
+        StepCalls x = Check.of("line 11;line 22;line 33;line 44;plan 0 99 0 22 1 33 2 10 2 44 3 99 2 30 1 20;");
+        // passed over, connected, passed over, nobody, connected, hung up, nobody, passed over
+        int[] due = {2, 2, 3, 1, 3};
         for (int i = 0; i < due.length; i++) {
             CHECK.due("20: runs(" + i + ")", x.runs(i), due[i]);
         }

@@ -8,6 +8,7 @@ public final class SeenTest {
         hunts();
         deads();
         ask();
+        askOfWhoIsPassedOver();
         byTheFace();
         CHECK.finish();
     }
@@ -97,6 +98,13 @@ public final class SeenTest {
         CHECK.due("35: ask(-1, 0)", x.ask(-1, 0), BAD);
         CHECK.due("35: ask(0, 2)", x.ask(0, 2), BAD);
         CHECK.due("35: ask(0, -1)", x.ask(0, -1), BAD);
+    }
+
+    private static void askOfWhoIsPassedOver() {
+        StepCalls x = Check.of("line 11;line 22;on 1 2;plan 1 11 1 11 1 20;");
+        // the third is passed over by three sets of four, dials nobody by one; the first tells two from two
+        CHECK.due("35: the worst may be who is passed over", x.ask(1, 0), 0);
+        CHECK.due("35: the worst may be who is passed over", x.ask(1, 1), 2);
     }
 
     /** What is told, found by changing one that is made anew and running it. */

@@ -51,12 +51,14 @@ public final class SheetsTest {
         x.dead(0, 0, true);
         x.plan(3, 99);
         x.cut(1);
-        x.see(1, 1);
         x.forget(0);
+        x.see(5, 5);
+        x.see(1, 1);
         Check.feed(x, "line");
         Check.fill(x, 1, 5);
         CHECK.due("38: back(1): calls", x.back(1), 1);
         CHECK.due("38: all is as it was: " + told(x) + ", due is " + was, told(x).equals(was) ? 1 : 0, 1);
+        CHECK.due("38: SEEN as it was", x.hunts(0), 15);
         CHECK.due("38: THE TAPE is no part of it", x.count(2), 4);
         CHECK.due("38: SHEETS are no part of it", x.count(3), 1);
         CHECK.due("38: the IMAGE stays", x.count(1), 1);
@@ -127,6 +129,7 @@ public final class SheetsTest {
         y.sheet(0, 0, 2);
         CHECK.due("39: CELLS of a new row are 0: 0 dials 0", y.read(0, 0, 0, 1), 1);
         CHECK.due("39: CELLS of a new row are 0: 0 dials 0", y.uses(0, 0), 1);
+        CHECK.due("39: CELLS of a new row are 0: 0 dials himself", y.rule(2), 0);
     }
 
     private static void lay() {

@@ -97,6 +97,15 @@ public final class TextTest {
         faulty("lines 11;", 2, 0);
         faulty("lin 11;", 2, 0);
         faulty("  lineline 11;", 2, 2);
+        faulty("mine 11;", 2, 0);
+        faulty("linz 11;", 2, 0);
+        faulty("linez 11;", 2, 0);
+        faulty("alin 11;", 2, 0);
+        faulty("az{", 2, 0);
+        faulty("{", 1, 0);
+        faulty("`", 1, 0);
+        faulty("/", 1, 0);
+        faulty(":", 1, 0);
         faulty("11;", 2, 0);
         faulty(";", 2, 0);
         faulty("line;", 2, 4);
@@ -174,6 +183,7 @@ public final class TextTest {
         x.dial(0, 11);
         x.dial(0, 22);
         x.see(0, 6);
+        x.keep(0);
         x.keep(1);
         Check.fill(x, 2, 7, 8, 9);
         x.read(0, 1, 0, 1);
@@ -191,10 +201,16 @@ public final class TextTest {
         }
         CHECK.due("4: nothing is SEEN", x.count(0), 0);
         CHECK.due("4: IMAGES are gone", x.count(1), 0);
+        CHECK.due("4: IMAGES are gone", x.back(0), StepCalls.STATE);
         CHECK.due("4: IMAGES are gone", x.back(1), StepCalls.STATE);
         CHECK.due("4: SHEETS stay", x.count(3), 3);
         CHECK.due("4: torn() stays", x.torn(), 3);
         CHECK.due("4: one(0, 0)", x.one(0, 0), 33);
+        String told = "finders 3;plan 0 11;line 11;on 1 2;back 2 3;spread 3 0;home 4 1;";
+        CHECK.due("4: a text once", Check.text(x, told), 7);
+        CHECK.due("4: the same text once more", Check.text(x, told), 7);
+        CHECK.due("4: one(0, 0)", x.one(0, 0), 11);
+        Check.text(x, "line 33;");
         x.see(0, 0);
         x.keep(0);
         x.dial(0, 33);
