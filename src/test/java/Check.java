@@ -16,6 +16,15 @@ final class Check {
         }
     }
 
+    void same(String what, String got, String want) {
+        compared++;
+        if (!got.equals(want)) {
+            wrong++;
+            System.out.println(name + ": " + what + " is" + System.lineSeparator() + "  " + got + System.lineSeparator() + "  due is");
+            System.out.println("  " + want);
+        }
+    }
+
     boolean failed() {
         return wrong > 0;
     }
