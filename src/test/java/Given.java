@@ -48,8 +48,16 @@ final class Given {
 
     /** As much of all as there may be: ONES, calls, FINDERS that are held, WAYS, ACTS, SEEN, IMAGES, CELLS, bytes. */
     static StepCalls full() {
-        StepCalls x = Check.of("line0;line4;line11;line22;line33;line44;finders6;home0 4;on1 4;back2 4;spread3 4;home4 4;"
-            + "plan0 99 0 4 2 99 2 22 4 99 4 44 1 0 3 11;");
+        StepCalls x = Check.of("line0;line4;line11;line22;line33;line44;");
+        for (int t = 0; t < 5; t++) {
+            x.ways(t, 4);
+            x.hunt(t, t % 4);
+        }
+        int[][] plan = {{0, 99}, {0, 4}, {2, 99}, {2, 22}, {4, 99}, {4, 44}, {1, 0}, {3, 11}};
+        for (int[] act : plan) {
+            x.plan(act[0], act[1]);
+        }
+        x.finders(6);
         x.dial(0, 4);
         x.dial(2, 22);
         x.dial(4, 44);

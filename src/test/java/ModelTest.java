@@ -4,7 +4,7 @@ import java.util.List;
 /** All promises at once: long runs of calls by a seed, each answer compared with Model's. */
 public final class ModelTest {
     private static final Check CHECK = new Check("ModelTest");
-    private static final int RUNS = 1500, CALLS = 510;
+    private static final int RUNS = 1500, CALLS = 500;
 
     private final StepCalls x = new StepCalls();
     private final Model y = new Model();

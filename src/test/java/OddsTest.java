@@ -100,6 +100,12 @@ public final class OddsTest {
     private static long[] choices(int seed, int v, int a, int b) {
         StepCalls x = made(seed);
         int acts = x.rule(3);
+        int[] who = new int[acts];
+        int[] what = new int[acts];
+        for (int i = 0; i < acts; i++) {
+            who[i] = x.act(i, 0);
+            what[i] = x.act(i, 1);
+        }
         long[] sums = new long[3];
         for (int left = 0; left < 1 << acts; left++) {
             StepCalls y = made(seed);
@@ -107,9 +113,9 @@ public final class OddsTest {
             long weight = 1;
             for (int i = 0; i < acts; i++) {
                 boolean out = (left >> i & 1) == 1;
-                weight *= x.act(i, 1) == 99 ? (out ? 0 : 1) : out ? v : 10 - v;
+                weight *= what[i] == 99 ? (out ? 0 : 1) : out ? v : 10 - v;
                 if (!out) {
-                    y.plan(x.act(i, 0), x.act(i, 1));
+                    y.plan(who[i], what[i]);
                 }
             }
             sums[0] += y.ahead(a) == b ? weight : 0;

@@ -1,4 +1,4 @@
-/** What an object is, told as one text, so that two can be compared. */
+/** What an object is, told as one text, so that two can be compared; in 220 calls, as an object is promised for 512. */
 final class Probe {
     private Probe() {
     }
@@ -9,7 +9,8 @@ final class Probe {
         for (int what = 0; what < 6; what++) {
             add(all, x.rule(what));
         }
-        for (int a = 0; a < x.rule(0); a++) {
+        int ones = x.rule(0);
+        for (int a = 0; a < ones; a++) {
             all.append("; one ").append(a);
             for (int what = 0; what < 4; what++) {
                 add(all, x.one(a, what));
@@ -20,12 +21,14 @@ final class Probe {
             for (int what = 0; what < 6; what++) {
                 add(all, x.group(t, what));
             }
-            for (int w = 0; w < x.group(t, 1); w++) {
+            int ways = x.group(t, 1);
+            for (int w = 0; w < ways; w++) {
                 add(all, x.uses(t, w));
             }
         }
         all.append("; plan");
-        for (int i = 0; i < x.rule(3); i++) {
+        int acts = x.rule(3);
+        for (int i = 0; i < acts; i++) {
             add(all, x.act(i, 0));
             add(all, x.act(i, 1));
         }
@@ -40,7 +43,8 @@ final class Probe {
     static String all(StepCalls x) {
         StringBuilder all = new StringBuilder(told(x));
         all.append("; tape").append(x.count(2)).append("; fault").append(x.fault()).append("; seen");
-        for (int n = x.count(0); n > 0; n--) {
+        int seen = x.count(0);
+        for (int n = seen; n > 0; n--) {
             add(all, x.hunts(2));
             add(all, x.forget(n - 1));
         }
@@ -53,11 +57,11 @@ final class Probe {
         for (int k = 0; k < 4; k++) {
             all.append("; sheet ").append(k);
             for (int lane = 0; lane < 3; lane++) {
-                for (int f = 0; f < 6; f += 2) {
-                    add(all, x.read(k, lane, f, 1));
-                }
-                add(all, x.torn());
+                add(all, x.read(k, lane, 0, 1));
             }
+            add(all, x.read(k, k % 3, 2, 1));
+            add(all, x.read(k, k % 3, 4, 1));
+            add(all, x.torn());
             add(all, x.rule(5));
         }
         add(all.append("; text"), x.text());
@@ -70,7 +74,7 @@ final class Probe {
         for (int what = 0; what < 6; what++) {
             add(all, x.rule(what));
         }
-        for (int a = 0; a < x.rule(0); a++) {
+        for (int a = 0; a < 6; a++) {
             add(all, x.one(a, 0));
         }
         for (int t = 0; t < 5; t++) {
