@@ -13,6 +13,7 @@ public final class BestEdgesTest {
         allAreLost();
         eachHuntMayBeBest();
         eachTwoMayChange();
+        inNoCallNow();
         eachActMayBeLeft();
         eachGroupMayHaveMore();
         moreIsNew();
@@ -175,6 +176,18 @@ public final class BestEdgesTest {
                 CHECK.due("26: of those in no call, " + a + ", " + b, x.swap(0), first < other ? 10 * first + other : 10 * other + first);
             }
         }
+    }
+
+    /** 26: "Two ONES (in no call)": in none now, whatever THE PLAN makes of it. */
+    private static void inNoCallNow() {
+        StepCalls x = Check.of("line 11;line 22;line 33;plan 0 99 2 33;");
+        CHECK.due("26: all are in no call: 0 and 2 are the first that are good", x.swap(0), 2);
+        x.dial(0, 22);
+        CHECK.due("26: 0 and 1 are in a call, though 0 hangs up ahead of it", x.swap(0), NONE);
+        CHECK.due("26: 0 and 1 are in a call, though 0 hangs up ahead of it", x.swap(1), NONE);
+        x.hang(1);
+        CHECK.due("26: they are in none again", x.swap(0), 2);
+        CHECK.due("26: they are in none again", x.swap(1), 0);
     }
 
     /** 27: each one of a full PLAN. */

@@ -16,6 +16,7 @@ public final class EmptyFullTest {
         fullSeen();
         fullExchange();
         fullWays();
+        usesOfAll();
         fullFinders();
         fullImages();
         fullSheets();
@@ -279,6 +280,31 @@ public final class EmptyFullTest {
         CHECK.due("28: none can have one more", x.more(0), NONE);
         x.forget(0);
         CHECK.due("34: whichever are DEAD now", x.deads(1), 65535);
+    }
+
+    /** 6: "4 all USES": of each WAY of each GROUP. */
+    private static void usesOfAll() {
+        StepCalls x = Check.of("line 0;");
+        int all = 0;
+        for (int t = 0; t < 5; t++) {
+            x.ways(t, 4);
+            x.hunt(t, 1);
+            for (int i = 0; i < 4 * (t + 1); i++) {
+                x.dial(0, 10 * t + 4);
+                all++;
+                CHECK.due("6: all USES", x.rule(4), all);
+            }
+            for (int w = 0; w < 4; w++) {
+                CHECK.due("9: uses(" + t + ", " + w + ")", x.uses(t, w), t + 1);
+            }
+        }
+        for (int t = 0; t < 5; t++) {
+            for (int w = 3; w >= 0; w--) {
+                x.ways(t, w);
+                all -= t + 1;
+                CHECK.due("6: all USES, some WAYS having gone", x.rule(4), all);
+            }
+        }
     }
 
     /** "FINDERS (1 to 6; 2 at first)", "1 all FINDERS are held by calls". */
