@@ -37,8 +37,8 @@ public final class StepCalls {
     private final Trial trial = new Trial();
     private final Best best = new Best();
     private final int[][] tally = new int[MAX_ACTS][PASSED + 1];
-    private final Tape tape = new Tape();
-    private final Reader reader = new Reader(tape);
+    private final Reader reader = new Reader();
+    private final Tape tape = reader.tape;
     private final Image[] images = new Image[ALL_IMAGES];
     private final Sheet[] sheets = new Sheet[ALL_SHEETS];
     private int textFault = 0;
@@ -1256,11 +1256,11 @@ public final class StepCalls {
         }
     }
 
-    /** Reads a text into a draft, so that a FAULT leaves what was told before. */
+    /** Reads THE TAPE into a draft, so that a FAULT leaves what was told before. */
     private static final class Reader {
         static final int NO_TOKEN = 1, NOT_THERE = 2, OUT_OF_BOUNDS = 3, TOLD_ALREADY = 4, TOO_MANY = 5, NO_SUCH_ONE = 6;
 
-        final Tape tape;
+        final Tape tape = new Tape();
         final Exchange exchange = new Exchange();
         final Script script = new Script();
         int lines = 0;
@@ -1270,8 +1270,7 @@ public final class StepCalls {
         boolean planTold = false;
         int groupsTold = 0;
 
-        Reader(Tape tape) {
-            this.tape = tape;
+        Reader() {
         }
 
         boolean readAll() {
